@@ -530,6 +530,27 @@ public final class FenceHeap {
         return BLOCKS_START + block * BLOCK_WORDS;
     }
 
+    private static boolean isHeapAddress(int number) {
+        return number >= HEAP_START && number < WORDS;
+    }
+
+    /** The word of the i-th entry that a recovery takes, of so many. */
+    private static int entryPlace(int i, int entries, int mode) {
+        return LOG_START + 2 * (mode == UNDO ? entries - 1 - i : i);
+    }
+
+    // The log is none of the heap: so what is written here does not change what is read.
+    private static void recoverWords(int[] words, int mode) {
+        int entries = Math.min(words[COUNT_WORD], LOG_ENTRIES);
+        for (int i = 0; i < entries; i++) {
+            int place = entryPlace(i, entries, mode);
+            if (isHeapAddress(words[place])) {
+                words[words[place]] = words[place + 1];
+            }
+        }
+        words[COUNT_WORD] = 0;
+    }
+
     private static boolean isBlockAddress(int number) {
         return number >= BLOCKS_START && number < WORDS && number % BLOCK_WORDS == 0;
     }
@@ -865,12 +886,8 @@ public final class FenceHeap {
         }
 
         /** MEDIA is recovered without any micro, and it runs. */
-        void recoverAtOnce(Planner planner) {
-            planner.planRecovery(cache.media, mode);
-            for (int i = 0; i < planner.writes; i++) {
-                cache.media[planner.addresses[i]] = planner.numbers[i];
-            }
-            cache.media[COUNT_WORD] = 0;
+        void recoverAtOnce() {
+            recoverWords(cache.media, mode);
             settle(cache.media);
             state = RUNS;
         }
@@ -974,8 +991,8 @@ public final class FenceHeap {
             int entries = Math.min(media[COUNT_WORD], LOG_ENTRIES);
             writes = 0;
             for (int i = 0; i < entries; i++) {
-                int place = LOG_START + 2 * (mode == UNDO ? entries - 1 - i : i);
-                if (media[place] >= HEAP_START && media[place] < WORDS) {
+                int place = entryPlace(i, entries, mode);
+                if (isHeapAddress(media[place])) {
                     addresses[writes] = media[place];
                     numbers[writes] = media[place + 1];
                     writes++;
@@ -1085,14 +1102,7 @@ public final class FenceHeap {
 
         void recoverPicture(int mode) {
             System.arraycopy(picture, 0, settled, 0, WORDS);
-            int entries = Math.min(picture[COUNT_WORD], LOG_ENTRIES);
-            for (int i = 0; i < entries; i++) {
-                int place = LOG_START + 2 * (mode == UNDO ? entries - 1 - i : i);
-                if (picture[place] >= HEAP_START && picture[place] < WORDS) {
-                    settled[picture[place]] = picture[place + 1];
-                }
-            }
-            settled[COUNT_WORD] = 0;
+            recoverWords(settled, mode);
         }
 
         int fateBy(Machine machine) {
@@ -1283,7 +1293,7 @@ public final class FenceHeap {
                 bad += walk.fateBy(trial) == 3 ? 1 : 0;
                 trial.fall(walk);
             }
-            trial.recoverAtOnce(planner);
+            trial.recoverAtOnce();
         }
 
         private int draw(int many) {
