@@ -156,7 +156,7 @@ public final class ModelTest {
             int op = pick(30) == 0 ? pick(9) - 2 : pick(5);
             boolean wild = pick(8) == 0;
             int one = wild ? pick(70) - 2 : op == 3 ? 20 + pick(pick(2) == 0 ? 8 : 44) : pick(4);
-            int other = wild ? pick(130) - 10 : op == 2 ? pick(4) : pick(3) == 0 ? 4 * pick(16) : pick(100);
+            int other = wild ? pick(130) - 10 : op == 2 ? pick(4) : pick(3) == 0 ? 4 * pick(17) : pick(100);
             both("later(" + op + ", " + one + ", " + other + ")", () -> heap.later(op, one, other),
                 () -> model.later(op, one, other));
         }
@@ -328,7 +328,7 @@ public final class ModelTest {
                 case 1: return "drop " + root;
                 case 2: return "move " + root + " " + (root + 1 + random.nextInt(3)) % 4;
                 case 3: return "set " + (20 + random.nextInt(44)) + " " + random.nextInt(100);
-                case 4: return "set " + (20 + random.nextInt(8)) + " " + 4 * random.nextInt(16);
+                case 4: return "set " + (20 + random.nextInt(8)) + " " + 4 * random.nextInt(17);
                 default: return "sweep";
             }
         }

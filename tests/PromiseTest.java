@@ -272,6 +272,12 @@ public final class PromiseTest {
         fault("do newer 0 1;", 1, "newer");
         fault("chain 0 12345678901234567890;", 2, "12345678901234567890");
         fault("12345;", 1, 0);
+        fault("undoz;", 1, 0);
+        fault("xndo;", 1, 0);
+        fault("without b a;", 0, -1);
+        fault("without a a;", 4, "a;");
+        fault("data 10 1 1;", 2, "10");
+        fault("data 9 0 0;", 0, -1);
     }
 
     static void counts() {
@@ -421,6 +427,16 @@ public final class PromiseTest {
         steps(torn, 13);
         int[] neither = {1, 4, 5, 1, 0};
         allShapes(torn, 1, neither);
+        FenceHeap ten = of("chain 0 9 8 7 6 5 4 3 2 1 0;do set 25 60;do set 25 64;do set 23 64;");
+        steps(ten, 13);
+        int[] round = {1023, 0, 1023, 0, 1};
+        allShapes(ten, 1, round);
+        steps(ten, 13);
+        int[] end = {1023, 0, 1023, 1, 0};
+        allShapes(ten, 1, end);
+        steps(ten, 13);
+        int[] beyond = {1023, 0, 1023, 9, 0};
+        allShapes(ten, 1, beyond);
         due("shape(-1, 0)", NO_SUCH, () -> heap.shape(-1, 0));
         due("shape(3, 0)", NO_SUCH, () -> heap.shape(3, 0));
         due("shape(0, -1)", NO_SUCH, () -> heap.shape(0, -1));
@@ -458,7 +474,8 @@ public final class PromiseTest {
     }
 
     static void voids() {
-        String[] none = {"do drop 0;", "do move 0 1;", "do sweep;", "do set 20 25,drop 0;", "do set 24 2,set 20 24,drop 0;",
+        String[] none = {"do drop 0;", "do move 0 1;", "do sweep;", "do set 20 25,drop 0;", "do set 20 64,drop 0;", "do set 20 64,move 0 1;",
+            "do set 24 2,set 20 24,drop 0;",
             "do new 0 1,new 1 2,set 40 1;", "chain 0 0 1 2 3 4 5 6 7 8 9;do new 1 1;", "do drop 0,set 40 1;",
             "leak 0;leak 1;leak 2;leak 3;leak 4;leak 5;leak 6;leak 7;leak 8;do sweep;", "chain 0 1;do sweep;",
             "do set 42 1,sweep;"};
@@ -921,6 +938,16 @@ public final class PromiseTest {
         due("look(1)", 0, () -> heap.look(1));
         due("look(2)", NO_SUCH, () -> heap.look(2));
         due("look(-1)", NO_SUCH, () -> heap.look(-1));
+        FenceHeap high = of("without a b c d e f g;do set 40 99;do set 40 64;do set 40 63;do set 40 99;");
+        due("20 steps", 20, () -> high.steps(50));
+        due("the number of entry 0, the least of two alike", 5, () -> high.look(0));
+        due("0, 99, 64, 63", 4, () -> high.look(1));
+        high.evict(1, 2);
+        due("numbers from 64 on", 40, () -> high.look(0));
+        due("0, 99, 64, 63", 4, () -> high.look(1));
+        high.evict(10, 3);
+        due("look(0)", 5, () -> high.look(0));
+        due("99, 64, 63", 3, () -> high.look(1));
         FenceHeap one = of("");
         due("look(0)", 0, () -> one.look(0));
         due("look(1)", 1, () -> one.look(1));
@@ -1038,5 +1065,57 @@ public final class PromiseTest {
             due("waits", 3, () -> heap.count(3));
             due("undo", -1, heap::undo);
         }
+        restoredActs();
+        restoredSights();
+    }
+
+    // Acts that are undone, and others in their place, don't touch those of the image.
+    static void restoredActs() {
+        FenceHeap heap = of("");
+        for (int i = 0; i < 47; i++) {
+            heap.site(i % 7);
+        }
+        due("sites behind 47", 31, () -> heap.count(2));
+        heap.image();
+        for (int again = 0; again < 2; again++) {
+            for (int i = 0; i < 20; i++) {
+                heap.undo();
+            }
+            for (int i = 0; i < 30; i++) {
+                heap.later(4, 0, 0);
+                heap.undo();
+                heap.site(6);
+            }
+            due("restore", 1, () -> heap.restore() ? 1 : 0);
+            due("acts", 40, () -> heap.count(14));
+            int sites = 31;
+            for (int i = 46; i >= 7; i--) {
+                int left = i - 7;
+                due("undo()", left, heap::undo);
+                sites ^= 1 << i % 7;
+                int want = sites;
+                due("sites", want, () -> heap.count(2));
+                due("waits", 0, () -> heap.count(3));
+            }
+            due("undo()", -1, heap::undo);
+        }
+    }
+
+    static void restoredSights() {
+        FenceHeap heap = of("");
+        heap.see(0, 1);
+        heap.image();
+        heap.forget();
+        heap.see(0, 0);
+        due("explained", 1, () -> heap.explained(0));
+        due("restore", 1, () -> heap.restore() ? 1 : 0);
+        due("explained", 0, () -> heap.explained(0));
+        heap.forget();
+        heap.see(0, 0);
+        heap.image();
+        heap.forget();
+        heap.see(0, 1);
+        due("restore", 1, () -> heap.restore() ? 1 : 0);
+        due("explained", 1, () -> heap.explained(0));
     }
 }

@@ -676,21 +676,6 @@ public final class FenceHeap {
             System.arraycopy(other.tallies, 0, tallies, 0, TALLIES);
         }
 
-        /** As by an empty text. */
-        void clear() {
-            Arrays.fill(cache.media, 0);
-            Arrays.fill(cache.held, 0);
-            Arrays.fill(cache.asked, 0);
-            dropMicros();
-            settle(cache.media);
-            Arrays.fill(waiting, 0);
-            waits = 0;
-            state = RUNS;
-            mode = UNDO;
-            sites = 0;
-            Arrays.fill(tallies, 0);
-        }
-
         /** From now on the heap of these words alone is well. */
         void settle(int[] words) {
             System.arraycopy(words, HEAP_START, before, 0, HEAP_WORDS);
@@ -875,7 +860,6 @@ public final class FenceHeap {
 
         void beginRecovery(Planner planner) {
             tallies[RECOVERIES]++;
-            dropMicros();
             state = RUNS;
             if (cache.media[COUNT_WORD] != 0) {
                 state = RECOVERS;
@@ -885,10 +869,9 @@ public final class FenceHeap {
             }
         }
 
-        /** MEDIA is recovered without any micro, and it runs. */
+        /** MEDIA is recovered without any micro, and it runs: as it was well since the crash. */
         void recoverAtOnce() {
             recoverWords(cache.media, mode);
-            settle(cache.media);
             state = RUNS;
         }
     }
@@ -1400,10 +1383,7 @@ public final class FenceHeap {
             text = bytes;
             length = Math.min(many, bytes.length);
             at = 0;
-            machine.clear();
-            isModeTold = false;
-            dataTold = 0;
-            chained = 0;
+            clear();
             goOn();
             for (int i = 0; i <= length && kind != END; i++) {
                 int fault = readClause();
@@ -1414,6 +1394,18 @@ public final class FenceHeap {
             }
             machine.settle(media);
             return 0;
+        }
+
+        // The reader's machine never runs: there is no more to clear than what a text tells.
+        private void clear() {
+            Arrays.fill(media, 0);
+            Arrays.fill(machine.waiting, 0);
+            machine.waits = 0;
+            machine.mode = UNDO;
+            machine.sites = 0;
+            isModeTold = false;
+            dataTold = 0;
+            chained = 0;
         }
 
         /** To the next token. */
