@@ -739,7 +739,7 @@ public final class ModelTest {
                 w.beginRecovery();
             }
             int[] answer = {0, -1, -1};
-            boolean follows = !w.flight.isEmpty() || w.ready();
+            boolean follows = !w.flight.isEmpty() || state == 0 && w.ready();
             for (int steps = 0; ; steps++) {
                 if (w.orders() > 2000) {
                     answer[0] = -2;
@@ -808,7 +808,6 @@ public final class ModelTest {
             acts.clear();
             seen.clear();
             kept = null;
-            status = new int[3];
             return 0;
         }
 

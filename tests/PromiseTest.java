@@ -194,14 +194,33 @@ public final class PromiseTest {
         due("micros", 10, () -> heap.count(4));
         due("texts refused", 0, () -> heap.count(17));
         due("place stays", 15, heap::fault);
-        heap.steps(0);
         due("heap(0)", 0, () -> heap.heap(0));
         due("place", -1, heap::fault);
         due("acts", 0, () -> heap.count(14));
         due("seen", 0, () -> heap.count(15));
         due("steps ever", 0, () -> heap.count(9));
-        due("acts refused", 0, () -> heap.count(18));
         due("image is gone", 0, () -> heap.restore() ? 1 : 0);
+        statusStaysOverTexts();
+    }
+
+    static void statusStaysOverTexts() {
+        FenceHeap heap = of("");
+        feed(heap, "x");
+        heap.heap(1);
+        heap.steps(0);
+        heap.recover();
+        heap.see(64, 0);
+        heap.see(-1, 0);
+        heap.see(0, 1000);
+        feed(heap, "redo;");
+        due("a text without a fault", 0, () -> heap.heap(5));
+        due("texts refused", 1, () -> heap.count(17));
+        due("acts refused", 2, () -> heap.count(18));
+        due("sights refused", 3, () -> heap.count(19));
+        feed(heap, "x");
+        heap.heap(1);
+        due("an empty text", 0, () -> heap.heap(0));
+        due("texts refused, counted on", 2, () -> heap.count(17));
     }
 
     static void faults() {
@@ -778,6 +797,7 @@ public final class PromiseTest {
         due("nothing is changed", 1, () -> heap.count(0));
         heap.recover();
         due("as it recovers", 9, () -> heap.check(0));
+        checksAsItIsDown();
         FenceHeap idle = of("");
         due("nothing waits", 0, () -> idle.check(0));
         idle.later(1, 0, 0);
@@ -786,6 +806,26 @@ public final class PromiseTest {
         steps(toggled, 1);
         toggled.site(3);
         due("what is in flight keeps its sites", 0, () -> toggled.check(0));
+    }
+
+    static void checksAsItIsDown() {
+        FenceHeap heap = of("without c g;do set 40 5,set 44 6;");
+        heap.crash(0);
+        due("down, COUNT 0: one that waits isn't followed", 0, () -> heap.check(0));
+        due("behind how many steps", -1, () -> heap.check(1));
+        due("its order", -1, () -> heap.check(2));
+        heap.recover();
+        due("it runs: it is", 7, () -> heap.check(0));
+        due("behind how many steps", 17, () -> heap.check(1));
+        due("its order", 5, () -> heap.check(2));
+        FenceHeap logged = of("do set 40 5,set 44 6;do set 40 7,set 44 8;");
+        steps(logged, 18);
+        logged.crash(3);
+        logged.site(2);
+        logged.site(6);
+        due("down, COUNT 2: the recovery alone is followed", 9, () -> logged.check(0));
+        logged.recover();
+        due("as it recovers: so, too", 9, () -> logged.check(0));
     }
 
     static void needless() {

@@ -1122,16 +1122,19 @@ public final class FenceHeap {
             firstStep = NONE;
             firstOrder = NONE;
             isTooMany = false;
-            if (trial.state == DOWN) {
+            boolean wasDown = trial.state == DOWN;
+            if (wasDown) {
                 trial.beginRecovery(planner);
             }
+            // Down with a COUNT of 0 there is no step of a recovery, and one that waits isn't followed.
+            boolean isNowAlone = wasDown && trial.isIdle();
             for (int step = 0; step <= MOST_MICROS; step++) {
                 if (trial.cache.orderTotal() > MOST_ORDERS) {
                     isTooMany = true;
                     return;
                 }
                 countBad(step, isHasty);
-                boolean isOver = step > 0 && trial.isIdle();
+                boolean isOver = isNowAlone || (step > 0 && trial.isIdle());
                 if (isOver || (isHasty && bad > 0) || !trial.step(planner)) {
                     return;
                 }
@@ -1343,12 +1346,11 @@ public final class FenceHeap {
             System.arraycopy(other.refused, 0, refused, 0, STATUSES);
         }
 
-        /** All anew, by what a text has told. */
+        /** All anew, by what a text has told; but what was refused stays counted. */
         void renew(Machine told) {
             machine.copyFrom(told);
             history.size = 0;
             seenSize = 0;
-            Arrays.fill(refused, 0);
         }
     }
 
