@@ -48,6 +48,7 @@ public final class MemoryEdges {
     public static void main(String[] args) {
         cache();
         orders();
+        byWords();
         news();
         otherOps();
         voids();
@@ -84,6 +85,25 @@ public final class MemoryEdges {
             is(0, heap.evict(10, 1));
             is(6, heap.now(42));
             is(6, heap.media(42));
+            // What has reached at once, as the last ones of the last line, tells no more.
+            Told last = Told.of(BARE + "do set 63 5,set 63 6,set 63 7,set 62 8;do set 60 1,set 60 2,set 60 3;");
+            is(16, last.steps(16));
+            is(0, last.evict(15, 4));
+            is(7, last.now(63));
+            is(8, last.now(62));
+            is(0, last.now(61));
+            is(1, last.undo());
+            is(13, last.steps(13));
+            is(6, last.pending(15));
+            is(5, last.media(63));
+            is(7, last.now(63));
+            is(3, last.now(60));
+            is(0, last.now(61));
+            Told fenced = Told.of("do set 63 5,set 63 6;");
+            is(21, fenced.steps(50));
+            is(6, fenced.now(63));
+            is(0, fenced.now(0));
+            is(63, fenced.now(4));
         });
         edges.sentence("a STORE comes behind those of its LINE (if it has 6, the eldest REACHES MEDIA first)", () -> {
             Told heap = Told.of(BARE + "do set 40 1,set 40 2,set 40 3,set 40 4;do set 40 5,set 41 6,set 43 7,set 40 8;");
@@ -248,6 +268,44 @@ public final class MemoryEdges {
         return heap;
     }
 
+    private static void byWords() {
+        edges.sentence("become WRITES (ADDRESS, number), by all WORDS as they are, with the WRITES ahead of them", () -> {
+            // What MEDIA has, if it is reached late, doesn't count.
+            Told heap = Told.of(BARE + "do new 0 5;do drop 0;do move 0 1;");
+            is(17 + 9, heap.steps(50));
+            is(0, heap.media(20));
+            is(0, heap.media(24));
+            is(2, heap.count(5));
+            is(1, heap.count(6));
+            Told swept = Told.of(BARE + "leak 3;do sweep;do sweep;");
+            is(5, swept.steps(50));
+            is(8, swept.shape(1, 1));
+            is(0, swept.shape(0, 1));
+            is(1, swept.count(6));
+            Told full = Told.of(BARE + "chain 0 0 1 2 3 4 5 6 7 8;do new 1 1;do new 1 2;do drop 1;do new 1 3;");
+            is(17 + 9 + 17, full.steps(50));
+            is(1, full.count(6));
+            is(3, full.now(62));
+            is(0, full.media(62));
+        });
+        edges.sentence("an ORDER is such a row of 16 numbers, and the IMAGE is MEDIA then", () -> {
+            Told heap = Told.of(BARE + "do set 23 1,set 63 2;");
+            is(9, heap.steps(9));
+            // Line 0: COUNT 1, 2, 0; line 1: 23, 0, 63, 0; lines 5 and 15: one each.
+            is(4 * 5 * 2 * 2, heap.orders());
+            int[][] images = {{0, 0, 0, 0, 0}, {1, 0, 0, 0, 2}, {2, 0, 0, 1, 0}, {7, 0, 23, 1, 2}, {20, 1, 0, 0, 0},
+                {47, 2, 23, 1, 2}, {75, 0, 23, 1, 2}, {79, 0, 23, 1, 2}};
+            for (int[] image : images) {
+                heap.crash(image[0]);
+                is(image[1], heap.media(0));
+                is(image[2], heap.media(4));
+                is(image[3], heap.media(23));
+                is(image[4], heap.media(63));
+                is(1, heap.undo());
+            }
+        });
+    }
+
     private static void news() {
         edges.sentence("'new' R V: of the first BLOCK that is free HEADER 1, NEXT as ROOT R is, the first of DATA V, ROOT R its ADDRESS.", () -> {
             Told first = isDone("data 0 8 9;do set 22 77,new 2 5;", 8 * 5 + 2 + 4);
@@ -405,6 +463,48 @@ public final class MemoryEdges {
             micro(heap, 4, 1, 0, -1);
             micro(heap, 5, 2, -1, -1);
         });
+        int[][] writes = {{24, 1}, {25, 0}, {26, 1}, {20, 24}, {28, 1}, {29, 0}, {30, 2}, {21, 28}};
+        edges.sentence("[e: FLUSH of ENTRY i's LINE]; [a: FENCE]; STORE of i + 1 to the COUNT; [f: FLUSH of LINE 0]; [b: FENCE]; STORE of the WRITE.", () -> {
+            Told heap = Told.of("do new 0 1,new 1 2;");
+            is(1, heap.steps(1));
+            is(70, heap.count(4));
+            for (int i = 0; i < 8; i++) {
+                if (i > 0) {
+                    micro(heap, 8 * i - 1, 0, 4 + 2 * i, writes[i][0]);
+                }
+                micro(heap, 8 * i, 0, 5 + 2 * i, 0);
+                micro(heap, 8 * i + 1, 1, 1 + i / 2, -1);
+                micro(heap, 8 * i + 2, 2, -1, -1);
+                micro(heap, 8 * i + 3, 0, 0, i + 1);
+                micro(heap, 8 * i + 4, 1, 0, -1);
+                micro(heap, 8 * i + 5, 2, -1, -1);
+                micro(heap, 8 * i + 6, 0, writes[i][0], writes[i][1]);
+            }
+        });
+        edges.sentence("By REDO: WRITE by WRITE: STORE of its ADDRESS, then of its number to ENTRY i; [e: FLUSH of that LINE]; behind all: [a: FENCE]", () -> {
+            Told heap = Told.of("redo;do new 0 1,new 1 2;");
+            is(1, heap.steps(1));
+            is(42, heap.count(4));
+            for (int i = 0; i < 8; i++) {
+                if (i > 0) {
+                    micro(heap, 3 * i - 1, 0, 4 + 2 * i, writes[i][0]);
+                }
+                micro(heap, 3 * i, 0, 5 + 2 * i, writes[i][1]);
+                micro(heap, 3 * i + 1, 1, 1 + i / 2, -1);
+                micro(heap, 27 + i, 0, writes[i][0], writes[i][1]);
+            }
+            micro(heap, 23, 2, -1, -1);
+            micro(heap, 24, 0, 0, 8);
+            micro(heap, 25, 1, 0, -1);
+            micro(heap, 26, 2, -1, -1);
+            micro(heap, 35, 1, 6, -1);
+            micro(heap, 36, 1, 5, -1);
+            micro(heap, 37, 1, 7, -1);
+            micro(heap, 38, 2, -1, -1);
+            micro(heap, 39, 0, 0, 0);
+            micro(heap, 40, 1, 0, -1);
+            micro(heap, 41, 2, -1, -1);
+        });
         edges.sentence("STORE of how many they are to the COUNT", () -> {
             Told one = Told.of("redo;" + BARE + "do set 40 5;");
             is(2, one.steps(2));
@@ -452,6 +552,35 @@ public final class MemoryEdges {
             is(15, redo.steps(50));
             is(3, redo.shape(1, 0));
         });
+        edges.sentence("by UNDO ENTRY n - 1 down to 0, by REDO 0 to n - 1", () -> {
+            // What an earlier transaction has left behind ENTRY n - 1 is none of it.
+            Told redo = Told.of("redo;do set 40 5,set 44 6,set 48 7;do set 42 8;");
+            is(9 + 4 + 3 + 3 + 4, redo.steps(23));
+            is(7, redo.steps(7));
+            is(44, redo.media(6));
+            is(1, redo.crash(0));
+            is(6, redo.recover());
+            micro(redo, 0, 0, 42, 8);
+            micro(redo, 1, 1, 10, -1);
+            micro(redo, 2, 2, -1, -1);
+            Told undo = Told.of("do set 40 5,set 44 6,set 48 7;do set 42 8;");
+            is(24 + 3 + 4, undo.steps(31));
+            is(7, undo.steps(7));
+            is(44, undo.media(6));
+            is(0, undo.recovered(0, 42));
+            is(6, undo.recovered(0, 44));
+            is(0, undo.crash(0));
+            is(6, undo.recover());
+            micro(undo, 0, 0, 42, 0);
+            // Behind the eighth ENTRY stands ROOT 0: it is none.
+            Told eight = Told.of("redo;chain 0 4;do new 0 1,new 1 2;");
+            is(28, eight.steps(28));
+            is(40, eight.media(20));
+            is(1, eight.crash(0));
+            is(15, eight.recover());
+            micro(eight, 7, 0, 21, 28);
+            micro(eight, 8, 1, 6, -1);
+        });
         edges.sentence("its NUMBER to its ADDRESS, if that is of the HEAP; then the COUNT is 0", () -> {
             Told heap = Told.of(BARE + "do set 40 5,set 44 6;");
             is(7, heap.steps(7));
@@ -469,6 +598,22 @@ public final class MemoryEdges {
             is(2, heap.recover());
             micro(heap, 0, 0, 40, 0);
             micro(heap, 1, 0, 0, 0);
+        });
+        edges.sentence("[g], [c], STORE of 0 to the COUNT, [f], [d] as at the end of a TRANSACTION", () -> {
+            int[] left = {8, 8, 7, 7, 8, 7, 6};
+            for (int site = 0; site < 7; site++) {
+                Told heap = Told.of("do set 40 5,set 44 6;");
+                is(18, heap.steps(18));
+                is(0, heap.crash(3));
+                is(1 << site, heap.site(site));
+                is(left[site], heap.recover());
+                is(0, heap.site(site));
+                is(left[site], heap.count(4));
+                is(left[site], heap.steps(50));
+                is(0, heap.now(40));
+                is(0, heap.now(44));
+                is(0, heap.now(0));
+            }
         });
         edges.sentence("(none at all, if the COUNT is 0)", () -> {
             Told heap = Told.of("do set 40 5;");
@@ -661,6 +806,46 @@ public final class MemoryEdges {
                 is(0, heap.count(what));
             }
         });
+        edges.sentence("STATE: 0 it RUNS, 1 it is DOWN, 2 it RECOVERS.", () -> {
+            Told heap = Told.of("do set 40 5;do set 41 6;");
+            is(0, heap.count(0));
+            is(8, heap.steps(8));
+            is(0, heap.count(0));
+            is(0, heap.crash(1));
+            is(1, heap.count(0));
+            is(6, heap.recover());
+            is(2, heap.count(0));
+            is(5, heap.steps(5));
+            is(2, heap.count(0));
+            is(2, heap.crash(1));
+            is(1, heap.count(0));
+            is(0, heap.recover());
+            is(0, heap.count(0));
+        });
+        edges.sentence("0 STATE, 1 MODE (0 UNDO, 1 REDO), 2 SITES that are LEFT OUT (bits)", () -> {
+            Told heap = Told.of("redo;without a g;");
+            is(0, heap.count(0));
+            is(1, heap.count(1));
+            is(65, heap.count(2));
+            is(2, heap.crash(0));
+            is(1, heap.count(0));
+            is(1, heap.count(1));
+        });
+        edges.sentence("5 TRANSACTIONS DONE, 6 VOID, 7 CRASHES, 8 RECOVERIES that began", () -> {
+            Told heap = Told.of("do set 40 5;do drop 0;do set 41 6;do set 42 7;");
+            is(13, heap.steps(13));
+            is(8, heap.steps(8));
+            is(0, heap.crash(0));
+            is(6, heap.recover());
+            is(1, heap.steps(1));
+            is(2, heap.crash(1));
+            is(6, heap.recover());
+            is(6 + 13, heap.steps(50));
+            int[] due = {2, 1, 2, 2};
+            for (int i = 0; i < due.length; i++) {
+                is(due[i], heap.count(5 + i));
+            }
+        });
         edges.sentence("9 STEPS ever, 10 STORES, 11 FLUSHES, 12 FENCES ever (by STEPS), 13 STORES that are PENDING", () -> {
             Told heap = Told.of("do set 40 5;do set 41 6;");
             is(8, heap.steps(8));
@@ -732,6 +917,20 @@ public final class MemoryEdges {
             is(5, heap.steps(5));
             is(1, heap.line(15, -1));
             is(6305, heap.line(15, 0));
+        });
+        edges.sentence("of the i-th (0 the eldest) 100 by its ADDRESS, and its number", () -> {
+            Told heap = Told.of(BARE + "do set 63 99,set 60 0,set 20 1;");
+            is(13, heap.steps(50));
+            is(6399, heap.line(15, 0));
+            is(6000, heap.line(15, 1));
+            is(2001, heap.line(5, 0));
+            int[] counts = {1, 2, 3, 0};
+            for (int i = 0; i < 4; i++) {
+                is(counts[i], heap.line(0, i));
+            }
+            is(463, heap.line(1, 0));
+            is(500, heap.line(1, 1));
+            is(820, heap.line(2, 0));
         });
         edges.sentence("NoSuchElementException: no such LINE (as everywhere), no such STORE.", () -> {
             Told heap = Told.of("do set 63 5;");

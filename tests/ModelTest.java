@@ -16,6 +16,10 @@ import java.util.TreeSet;
 public final class ModelTest {
     private static int wrong = 0;
     private static int calls = 0;
+    // What later calls on one object answer is free.
+    private static final int MOST_CALLS = 512;
+    // So many are left for the last look at all.
+    private static final int LAST_CALLS = 300;
 
     public static void main(String[] args) {
         int runs = args.length > 1 ? Integer.parseInt(args[1]) : 700;
@@ -51,6 +55,7 @@ public final class ModelTest {
         final FenceHeap heap = new FenceHeap();
         final Model model = new Model();
         final List<String> told = new ArrayList<>();
+        private int made = 0;
 
         Run(int number) {
             this.number = number;
@@ -58,6 +63,10 @@ public final class ModelTest {
         }
 
         void both(String name, Call one, Call other) {
+            if (made == MOST_CALLS) {
+                return;
+            }
+            made++;
             calls++;
             String got = outcome(one);
             String due = outcome(other);
@@ -77,14 +86,11 @@ public final class ModelTest {
 
         void go() {
             tell(Texts.make(random));
-            int many = 40 + pick(80);
+            int many = MOST_CALLS - (pick(3) == 0 ? 0 : LAST_CALLS);
             int before = wrong;
-            for (int i = 0; i < many && wrong == before; i++) {
+            while (made < many && wrong == before) {
                 act();
                 ask();
-                if (pick(25) == 0) {
-                    askAll();
-                }
             }
             askAll();
         }
@@ -117,7 +123,7 @@ public final class ModelTest {
                     both("evict(" + line + ", " + b + ")", () -> heap.evict(line, b), () -> model.evict(line, b));
                     break;
                 case 11:
-                    int order = pick(4) == 0 ? a : pick((int) Math.min(Math.max(heap.orders(), 1), 3000));
+                    int order = pick(4) == 0 ? a : pick((int) Math.min(Math.max(model.orders(), 1), 3000));
                     both("crash(" + order + ")", () -> heap.crash(order), () -> model.crash(order));
                     break;
                 case 12: case 13: case 14:
@@ -145,7 +151,7 @@ public final class ModelTest {
         int fullLine() {
             int line = pick(16);
             for (int i = 0; i < 16; i++) {
-                if (heap.line((line + i) % 16, -1) > 0) {
+                if (model.line((line + i) % 16, -1) > 0) {
                     return (line + i) % 16;
                 }
             }
@@ -164,7 +170,7 @@ public final class ModelTest {
         void see() {
             int word = pick(10) == 0 ? pick(70) - 3 : pick(2) == 0 ? 0 : 4 * fullLine() + pick(4);
             boolean honest = word >= 0 && word < 64 && pick(4) != 0;
-            int number = honest ? heap.word(word, pick(2) == 0) : pick(20) == 0 ? pick(1100) - 50 : pick(3);
+            int number = honest ? model.word(word, pick(2) == 0) : pick(20) == 0 ? pick(1100) - 50 : pick(3);
             both("see(" + word + ", " + number + ")", () -> heap.see(word, number), () -> model.see(word, number));
         }
 
@@ -193,7 +199,7 @@ public final class ModelTest {
         void ask() {
             int a = pick(3);
             int w = pick(64);
-            int order = pick((int) Math.min(heap.orders() + 1, 3000));
+            int order = pick((int) Math.min(model.orders() + 1, 3000));
             switch (pick(16)) {
                 case 0: both("check(" + a + ")", () -> heap.check(a), () -> model.check(a)); break;
                 case 1: both("needless()", heap::needless, model::needless); break;
@@ -242,26 +248,6 @@ public final class ModelTest {
                 int what = i;
                 both("count(" + what + ")", () -> heap.count(what), () -> model.count(what));
             }
-            for (int i = 0; i < 64; i++) {
-                int w = i;
-                both("word(" + w + ", false)", () -> heap.word(w, false), () -> model.word(w, false));
-                both("word(" + w + ", true)", () -> heap.word(w, true), () -> model.word(w, true));
-            }
-            for (int i = 0; i < 16 * 9; i++) {
-                int line = i / 9;
-                int k = i % 9 - 2;
-                both("line(" + line + ", " + k + ")", () -> heap.line(line, k), () -> model.line(line, k));
-            }
-            for (int i = 0; i < 80 * 3; i++) {
-                int m = i / 3;
-                int what = i % 3;
-                both("micro(" + m + ", " + what + ")", () -> heap.micro(m, what), () -> model.micro(m, what));
-            }
-            for (int i = 0; i < 15; i++) {
-                int of = i / 5;
-                int what = i % 5;
-                both("shape(" + of + ", " + what + ")", () -> heap.shape(of, what), () -> model.shape(of, what));
-            }
             both("orders()", heap::orders, model::orders);
             for (int i = 0; i < 3; i++) {
                 int what = i;
@@ -269,6 +255,40 @@ public final class ModelTest {
                 both("chance(" + what + ")", () -> heap.chance(what), () -> model.chance(what));
                 both("explained(" + what + ")", () -> heap.explained(what), () -> model.explained(what));
                 both("look(" + what + ")", () -> heap.look(what), () -> model.look(what));
+            }
+            for (int i = 0; i < 15; i++) {
+                int of = i / 5;
+                int what = i % 5;
+                both("shape(" + of + ", " + what + ")", () -> heap.shape(of, what), () -> model.shape(of, what));
+            }
+            for (int i = 0; i < 64; i++) {
+                int w = i;
+                both("word(" + w + ", false)", () -> heap.word(w, false), () -> model.word(w, false));
+                both("word(" + w + ", true)", () -> heap.word(w, true), () -> model.word(w, true));
+            }
+            askLines();
+            askMicros();
+        }
+
+        /** One store more than pend, too. */
+        void askLines() {
+            for (int i = 0; i < 16; i++) {
+                int line = i;
+                for (int j = -2; j <= model.line(line, -1); j++) {
+                    int k = j;
+                    both("line(" + line + ", " + k + ")", () -> heap.line(line, k), () -> model.line(line, k));
+                }
+            }
+        }
+
+        /** One micro more than are left, too. */
+        void askMicros() {
+            for (int i = 0; i <= model.count(4); i++) {
+                for (int k = 0; k < 3; k++) {
+                    int m = i;
+                    int what = k;
+                    both("micro(" + m + ", " + what + ")", () -> heap.micro(m, what), () -> model.micro(m, what));
+                }
             }
         }
     }

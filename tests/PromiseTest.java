@@ -1135,8 +1135,8 @@ public final class PromiseTest {
                 sites ^= 1 << i % 7;
                 int want = sites;
                 due("sites", want, () -> heap.count(2));
-                due("waits", 0, () -> heap.count(3));
             }
+            due("waits", 0, () -> heap.count(3));
             due("undo()", -1, heap::undo);
         }
     }

@@ -202,6 +202,14 @@ public final class TextEdges {
             faulty("undo{;", 1, 4);
             faulty("undo`;", 1, 4);
             faulty("undoA;", 1, 4);
+            for (String word : new String[] {"undo", "redo", "without a", "chain 0 1", "leak 1", "data 0 1 2", "do sweep"}) {
+                faulty("x" + word.substring(1) + ";", 1, 0);
+                faulty("x" + word + ";", 1, 0);
+            }
+            for (String op : new String[] {"new 0 1", "drop 0", "move 0 1", "set 20 1", "sweep"}) {
+                faulty("do x" + op.substring(1) + ";", 1, 3);
+                faulty("do x" + op + ";", 1, 3);
+            }
             faulty("without ab;", 1, 8);
             faulty("do sweepset 20 1;", 1, 3);
             faulty("chain 0 1leak 2;", 1, 9);
@@ -620,6 +628,19 @@ public final class TextEdges {
             heap.put("xyz");
             is(1, heap.heap(3));
             is(0, heap.count(16));
+        });
+        edges.sentence("are a TEXT, all anew", () -> {
+            // Nothing of an earlier text, be it with a fault, is left in a later one.
+            Told heap = new Told();
+            is(0, heap.tell("redo;without a g;chain 0 1 2;data 3 4 5;leak 6;do set 20 1,sweep,sweep,sweep;do sweep,drop 1;"));
+            is(2, heap.tell("redo;without b;chain 1 2;data 4 4 5;leak 7;do set 20 1,sweep,sweep,sweep;do sweep,drop 4;"));
+            is(0, heap.tell("chain 0 1;data 3 6 7;data 4 8 9;leak 2;do set 42 5;do set 43 6;"));
+            is(26, heap.steps(50));
+            is(0, heap.count(1));
+            is(0, heap.count(2));
+            is(5, heap.media(42));
+            is(6, heap.media(43));
+            is(0, heap.media(33));
         });
         edges.sentence("0, or the FAULT (all stays, but STATUS).", () -> {
             Told heap = busy();
