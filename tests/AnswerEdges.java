@@ -18,10 +18,13 @@ public final class AnswerEdges {
         checks();
         tooManyToCheck();
         needless();
+        needlessOrNone();
         least();
+        ways();
         shapes();
         chances();
         seen();
+        imagesSeen();
         explained();
         looks();
         forgets();
@@ -363,6 +366,26 @@ public final class AnswerEdges {
         });
     }
 
+    private static void needlessOrNone() {
+        edges.sentence("NEEDLESS; NONE: none.", () -> {
+            // None at all is NONE; that no site is needless is 0.
+            is(-1, new Told().needless());
+            is(0, Told.of(BARE + "do set 40 5;").needless());
+            is(0, Told.of("without f;do set 40 5;").needless());
+            Told heap = Told.of("do drop 0;");
+            is(-1, heap.needless());
+            is(2, heap.later(3, 40, 5));
+            is(23, heap.needless());
+            is(0, heap.undo());
+            is(-1, heap.needless());
+            is(2, heap.crash(0));
+            is(2, heap.later(3, 40, 5));
+            is(-1, heap.needless());
+            is(0, heap.recover());
+            is(23, heap.needless());
+        });
+    }
+
     private static void least() {
         edges.sentence("LEAST: of FENCES a to d the fewest that must not be LEFT OUT (FLUSHES as they are), so that CHECK has no BAD, nor TOO MANY", () -> {
             Told heap = longLog("redo;");
@@ -425,6 +448,19 @@ public final class AnswerEdges {
         for (int what = 0; what < due.length; what++) {
             is(due[what], heap.shape(of, what));
         }
+    }
+
+    private static void ways() {
+        edges.sentence("from a ROOT one goes to the BLOCK in use whose ADDRESS it is, on to the one whose ADDRESS is its NEXT, and so on: all these are REACHED.", () -> {
+            shaped(new Told(), 1, 0, 0, 0, 0, 0);
+            shaped(Told.of("chain 1 9 0 5;chain 2 3;"), 1, 512 + 1 + 32 + 8, 0, 512 + 1 + 32 + 8, 0, 0);
+            shaped(set("chain 1 9 0 5;", 61, 44), 1, 512 + 32, 1, 512 + 1 + 32, 0, 0);
+            // A free BLOCK, or one whose HEADER is neither, ends the way; what is behind it leaks.
+            shaped(set("chain 1 9 0 5;", 24, 0), 1, 512, 32, 512 + 32, 2, 0);
+            shaped(set("chain 1 9 0 5;", 24, 7), 1, 512, 32, 512 + 32, 2, 0);
+            // DATA lead nowhere.
+            shaped(Told.of("chain 1 9;leak 0;data 9 24 24;"), 1, 512, 1, 513, 0, 0);
+        });
     }
 
     private static void shapes() {
@@ -581,6 +617,31 @@ public final class AnswerEdges {
             Told most = new Told();
             is(1, most.see(63, 999));
             is(0, most.explained(0));
+        });
+    }
+
+    private static void imagesSeen() {
+        edges.sentence("SEEN (at most 8): what a WORD of the IMAGE would be.", () -> {
+            // The IMAGE as it is, not RECOVERED: COUNT 1, the log and the write of 40.
+            Told heap = Told.of("do set 40 5;");
+            is(8, heap.steps(8));
+            is(2, heap.orders());
+            int[][] all = {{0, 1}, {4, 40}, {5, 0}, {40, 5}, {41, 0}, {63, 0}, {20, 0}, {40, 5}};
+            for (int i = 0; i < all.length; i++) {
+                is(i + 1, heap.see(all[i][0], all[i][1]));
+                is(i < 3 ? 2 : 1, heap.explained(0));
+                is(i < 3 ? 0 : 1, heap.explained(1));
+            }
+            is(-1, heap.see(40, 5));
+            is(8, heap.count(15));
+            is(0, heap.recovered(1, 40));
+            // What is SEEN stays as ORDERS change.
+            is(0, heap.evict(10, 1));
+            is(1, heap.explained(0));
+            is(0, heap.explained(1));
+            is(5, heap.steps(50));
+            is(0, heap.explained(0));
+            is(-1, heap.explained(1));
         });
     }
 

@@ -53,8 +53,11 @@ public final class MemoryEdges {
         otherOps();
         voids();
         transactionMicros();
+        transactionEnds();
         recovery();
+        recoveryEnds();
         steps();
+        singleSteps();
         acts();
         counts();
         looksInside();
@@ -521,6 +524,60 @@ public final class MemoryEdges {
         });
     }
 
+    /** The micros that are left, each as kind, place and number. */
+    private static void left(Told heap, int... micros) {
+        is(micros.length / 3, heap.count(4));
+        for (int i = 0; i < micros.length / 3; i++) {
+            micro(heap, i, micros[3 * i], micros[3 * i + 1], micros[3 * i + 2]);
+        }
+        is(Told.NO_SUCH, heap.micro(micros.length / 3, 0));
+    }
+
+    /** The write of 40 is the next step. */
+    private static Told logged(String mode, String site) {
+        Told heap = Told.of(mode + (site.isEmpty() ? "" : "without " + site + ";") + "do set 40 5;");
+        is(1, heap.steps(1));
+        while (heap.micro(0, 1) != 40) {
+            is(1, heap.steps(1));
+        }
+        return heap;
+    }
+
+    private static void transactionEnds() {
+        edges.sentence("; [c: FENCE]; STORE of 0 to the COUNT; [f: FLUSH of LINE 0]; [d: FENCE].", () -> {
+            for (String mode : new String[] {"undo;", "redo;"}) {
+                left(logged(mode, ""), 0, 40, 5, 1, 10, -1, 2, -1, -1, 0, 0, 0, 1, 0, -1, 2, -1, -1);
+                left(logged(mode, "a b e"), 0, 40, 5, 1, 10, -1, 2, -1, -1, 0, 0, 0, 1, 0, -1, 2, -1, -1);
+                left(logged(mode, "c"), 0, 40, 5, 1, 10, -1, 0, 0, 0, 1, 0, -1, 2, -1, -1);
+                left(logged(mode, "d"), 0, 40, 5, 1, 10, -1, 2, -1, -1, 0, 0, 0, 1, 0, -1);
+                left(logged(mode, "f"), 0, 40, 5, 1, 10, -1, 2, -1, -1, 0, 0, 0, 2, -1, -1);
+                left(logged(mode, "g"), 0, 40, 5, 2, -1, -1, 0, 0, 0, 1, 0, -1, 2, -1, -1);
+                left(logged(mode, "a b c d e f g"), 0, 40, 5, 0, 0, 0);
+            }
+        });
+        edges.sentence("[f: FLUSH of LINE 0]; [b: FENCE]; then STORES of the WRITES.", () -> {
+            String[] without = {"", "without a;", "without b;", "without f;", "without a b f;"};
+            int[][] behindLog = {{2, 0, 1, 2}, {0, 1, 2}, {2, 0, 1}, {2, 0, 2}, {0}};
+            for (int i = 0; i < without.length; i++) {
+                Told heap = Told.of("redo;" + without[i] + "do set 40 5,set 20 6,set 40 7;");
+                is(9, heap.steps(9));
+                int next = 0;
+                for (int kind : behindLog[i]) {
+                    is(kind, heap.micro(next, 0));
+                    is(kind == 2 ? -1 : 0, heap.micro(next, 1));
+                    is(kind == 0 ? 3 : -1, heap.micro(next, 2));
+                    next++;
+                }
+                micro(heap, next, 0, 40, 5);
+                micro(heap, next + 1, 0, 20, 6);
+                micro(heap, next + 2, 0, 40, 7);
+                micro(heap, next + 3, 1, 10, -1);
+                micro(heap, next + 4, 1, 5, -1);
+                micro(heap, next + 5, 2, -1, -1);
+            }
+        });
+    }
+
     private static void recovery() {
         edges.sentence("with COUNT n (of 8 ENTRIES, if it is more), by UNDO ENTRY n - 1 down to 0, by REDO 0 to n - 1", () -> {
             Told undo = Told.of("do new 0 1,new 1 2;");
@@ -633,6 +690,119 @@ public final class MemoryEdges {
             micro(bare, 0, 2, -1, -1);
             micro(bare, 1, 0, 0, 0);
             is(2, bare.count(0));
+        });
+    }
+
+    private static void recoveryEnds() {
+        edges.sentence("In MICROS: these STORES; [g], [c], STORE of 0 to the COUNT, [f], [d]", () -> {
+            // By UNDO 44 is 0 again ahead of 40; by REDO 40 is 5 ahead of 44.
+            for (String mode : new String[] {"undo;", "redo;"}) {
+                boolean isUndo = mode.equals("undo;");
+                int[] first = isUndo ? new int[] {44, 0, 40, 0} : new int[] {40, 5, 44, 6};
+                for (int site = -1; site < 7; site++) {
+                    Told heap = Told.of(mode + "do set 40 5,set 44 6;");
+                    is(isUndo ? 18 : 14, heap.steps(isUndo ? 18 : 14));
+                    is(isUndo ? 0 : 1, heap.crash(3));
+                    is(2, heap.media(0));
+                    if (site >= 0) {
+                        is(1 << site, heap.site(site));
+                    }
+                    heap.recover();
+                    micro(heap, 0, 0, first[0], first[1]);
+                    micro(heap, 1, 0, first[2], first[3]);
+                    int next = 2;
+                    if (site != 6) {
+                        micro(heap, next++, 1, first[0] / 4, -1);
+                        micro(heap, next++, 1, first[2] / 4, -1);
+                    }
+                    if (site != 2) {
+                        micro(heap, next++, 2, -1, -1);
+                    }
+                    micro(heap, next++, 0, 0, 0);
+                    if (site != 5) {
+                        micro(heap, next++, 1, 0, -1);
+                    }
+                    if (site != 3) {
+                        micro(heap, next++, 2, -1, -1);
+                    }
+                    is(next, heap.count(4));
+                }
+            }
+        });
+        edges.sentence("What a WORD is, were the IMAGE of an ORDER RECOVERED.", () -> {
+            Told heap = Told.of("without a b c d f g;do set 40 5;");
+            Told same = Told.of("without a b c d f g;do set 40 5;");
+            is(5, heap.steps(5));
+            is(5, same.steps(5));
+            // Line 0: COUNT 1; line 1: 40, 0; line 10: 5.
+            is(2 * 3 * 2, heap.orders());
+            for (int order = 0; order < 12; order++) {
+                boolean isUndone = order >= 6 && order / 2 % 3 > 0;
+                is(0, heap.recovered(order, 0));
+                is(order / 2 % 3 > 0 ? 40 : 0, heap.recovered(order, 4));
+                is(0, heap.recovered(order, 5));
+                is(order % 2 == 0 || isUndone ? 0 : 5, heap.recovered(order, 40));
+                is(0, heap.recovered(order, 63));
+            }
+            is(5, heap.now(40));
+            is(0, heap.media(40));
+            edges.alike(same, heap);
+        });
+    }
+
+    private static void singleSteps() {
+        edges.sentence("A STEP: if it RUNS, nothing is IN FLIGHT, and a TRANSACTION WAITS,", () -> {
+            // As it RECOVERS, or with one in flight, none that waits begins, nor is a void one gone.
+            Told heap = Told.of("do set 40 5;do drop 0;do set 41 6;");
+            for (int made = 1; made <= 8; made++) {
+                is(1, heap.steps(1));
+                is(2, heap.count(3));
+            }
+            is(0, heap.crash(0));
+            is(6, heap.recover());
+            for (int left = 5; left >= 0; left--) {
+                is(1, heap.steps(1));
+                is(left, heap.count(4));
+                is(2, heap.count(3));
+                is(0, heap.count(6));
+            }
+            is(0, heap.count(0));
+            is(0, heap.count(5));
+            is(1, heap.steps(1));
+            is(0, heap.count(3));
+            is(1, heap.count(6));
+            is(12, heap.count(4));
+        });
+        edges.sentence("Then the first MICRO of what is IN FLIGHT is done", () -> {
+            Told heap = Told.of("do set 40 5;");
+            is(1, heap.steps(1));
+            is(440, heap.line(1, 0));
+            is(1, heap.pending(1));
+            long left = heap.count(4);
+            while (left > 0) {
+                long kind = heap.micro(0, 0);
+                long before = heap.count(10 + (int) kind);
+                is(1, heap.steps(1));
+                is(before + 1, heap.count(10 + (int) kind));
+                is(--left, heap.count(4));
+            }
+            is(5, heap.count(10));
+            is(4, heap.count(11));
+            is(4, heap.count(12));
+        });
+        edges.sentence(": STEPS are made (1 to 50);", () -> {
+            Told heap = Told.of("do set 40 5;".repeat(5));
+            is(-1, heap.steps(0));
+            is(-1, heap.steps(51));
+            is(1, heap.steps(1));
+            is(50, heap.steps(50));
+            is(5 * 13 - 51, heap.steps(50));
+            is(3, heap.count(14));
+            is(5, heap.count(5));
+            is(2, heap.undo());
+            is(51, heap.count(9));
+            is(1, heap.undo());
+            is(1, heap.count(9));
         });
     }
 
@@ -959,6 +1129,29 @@ public final class MemoryEdges {
             micro(heap, 4, 1, 0, -1);
             micro(heap, 6, 0, 40, 99);
             micro(heap, 11, 2, -1, -1);
+        });
+        edges.sentence("A WORD as it is, or as MEDIA has it.", () -> {
+            Told heap = Told.of("data 4 9 8;do set 42 5,set 63 7;");
+            is(18, heap.steps(18));
+            int[][] words = {{0, 2, 2}, {1, 0, 0}, {4, 42, 42}, {5, 9, 9}, {6, 63, 63}, {41, 0, 0}, {42, 5, 9}, {43, 8, 8},
+                {63, 7, 0}};
+            for (int[] one : words) {
+                is(one[1], heap.now(one[0]));
+                is(one[2], heap.media(one[0]));
+            }
+        });
+        edges.sentence("Of the i-th MICRO that is left (0 the next): 0 what it is (0 a STORE, 1 a FLUSH, 2 a FENCE)", () -> {
+            Told heap = Told.of("do set 40 5;");
+            is(1, heap.steps(1));
+            int[] kinds = {0, 1, 2, 0, 1, 2, 0, 1, 2, 0, 1, 2};
+            for (int made = 0; made < kinds.length; made++) {
+                for (int i = 0; made + i < kinds.length; i++) {
+                    is(kinds[made + i], heap.micro(i, 0));
+                }
+                is(Told.NO_SUCH, heap.micro(kinds.length - made, 0));
+                is(1, heap.steps(1));
+            }
+            is(Told.NO_SUCH, heap.micro(0, 0));
         });
         edges.sentence("NoSuchElementException: there is none, another what.", () -> {
             Told heap = Told.of("do set 40 5;do set 41 6;");

@@ -182,6 +182,18 @@ public final class TextEdges {
             faulty("without `;", 1, 8);
             faulty("without A;", 1, 8);
         });
+        edges.sentence(": a, b, c, d are FENCES, e, f, g FLUSHES.", () -> {
+            // By UNDO of two writes: a and b are twice 1, c and d 1; e is twice 1, f 3, g 2, one a line.
+            int[] fences = {4, 4, 5, 5, 6, 6, 6};
+            int[] flushes = {7, 7, 7, 7, 5, 4, 5};
+            for (int site = 0; site < 7; site++) {
+                Told heap = Told.of("without " + (char) ('a' + site) + ";do set 40 5,set 44 6;");
+                is(9 + fences[site] + flushes[site], heap.steps(50));
+                is(9, heap.count(10));
+                is(flushes[site], heap.count(11));
+                is(fences[site], heap.count(12));
+            }
+        });
     }
 
     private static void tokens() {
@@ -364,6 +376,17 @@ public final class TextEdges {
     }
 
     private static void what() {
+        edges.sentence("By 'chain' the ROOT is the ADDRESS of the first BLOCK,", () -> {
+            for (int root = 0; root < 4; root++) {
+                for (int block = 0; block < 10; block++) {
+                    Told heap = sound("chain " + root + " " + block + ";");
+                    for (int other = 0; other < 4; other++) {
+                        is(other == root ? 24 + 4 * block : 0, heap.media(20 + other));
+                    }
+                    is(1 << block, heap.shape(1, 0));
+                }
+            }
+        });
         edges.sentence("NEXT of each that of the one behind it (0 of the last), all are in use", () -> {
             Told heap = sound("chain 0 9 0 5;chain 1 3;");
             int[][] words = {{20, 60}, {61, 24}, {25, 44}, {45, 0}, {21, 36}, {37, 0}, {22, 0}, {23, 0}};
